@@ -27,7 +27,7 @@ final class Sea {
         }
     }
 
-    private static int number(String text, int at) {
+    static int number(String text, int at) {
         int number = 0;
         for (int i = at; i < at + 4; i++) {
             number = number << 8 | (i < text.length() ? text.charAt(i) & 255 : 0);
@@ -35,11 +35,9 @@ final class Sea {
         return number;
     }
 
-    /** All but status(), by calls that are not refused. */
+    /** All but status(), as far as some hundred calls can ask for it, none of them refused. */
     static String shown(SeaMeeting sea) {
-        StringBuilder all = new StringBuilder(stateOf(sea));
-        all.append(" tape ").append(sea.told(11)).append(" fault ").append(sea.fault());
-        return all.append(" kept ").append(sea.told(12)).toString();
+        return stateOf(sea) + " tape " + sea.told(11) + " fault " + sea.fault() + " kept " + sea.told(12);
     }
 
     /** What acts change and undo() brings back. */
@@ -48,18 +46,17 @@ final class Sea {
         for (int what = 0; what <= 10; what++) {
             all.append(sea.told(what)).append(' ');
         }
-        all.append("cells ");
-        for (int y = 0; y < sea.told(1); y++) {
-            for (int x = 0; x < sea.told(0); x++) {
+        for (int x = 0; x < 3; x++) {
+            for (int y = 0; y < 3; y++) {
                 all.append(sea.cell(x, y, 0)).append(sea.cell(x, y, 1)).append(' ');
             }
         }
         all.append("winds ");
-        for (int hour = 0; hour <= 560; hour++) {
-            all.append(sea.blows(hour));
+        for (int hour = 0; hour < 8; hour++) {
+            all.append(sea.blows(hour)).append(sea.blows(hour + 500)).append(' ');
         }
-        all.append(" drift ");
-        for (int n = 0; n <= 60; n++) {
+        all.append(sea.blows(560)).append(" drift ");
+        for (int n : new int[] {0, 1, 2, 7, 60}) {
             for (int what = 0; what < 4; what++) {
                 all.append(sea.drift(n, what)).append(' ');
             }
@@ -76,11 +73,12 @@ final class Sea {
             all.append(sea.helper(helper, what)).append(' ');
         }
         all.append(sea.meet(helper, 0)).append(' ').append(sea.meet(helper, 1)).append(" route ");
-        for (int k = 0; k < 61; k++) {
+        for (int k = 0; k < 5; k++) {
             all.append(sea.route(helper, k)).append(' ');
         }
-        all.append("home ").append(sea.home(helper, 0)).append(' ').append(sea.home(helper, 1)).append(' ');
-        return all.toString();
+        all.append("least ").append(sea.least(helper, 60)).append(" reach ").append(sea.reach(helper, 3));
+        return all.append(" home ").append(sea.home(helper, 0)).append(' ').append(sea.home(helper, 1)).append(' ')
+                .toString();
     }
 
     static String statusOf(SeaMeeting sea) {
