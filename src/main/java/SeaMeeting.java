@@ -770,7 +770,7 @@ public final class SeaMeeting {
         private boolean readWord() {
             skipBlanks();
             start = place;
-            while (isIn(byteAt(place), 'a', 'z')) {
+            while (place < end && isIn(byteAt(place), 'a', 'z')) {
                 place++;
             }
             return place > start || fail(CAN_NOT_STAND, start);
@@ -792,7 +792,7 @@ public final class SeaMeeting {
             skipBlanks();
             start = place;
             value = 0;
-            while (isIn(byteAt(place), '0', '9')) {
+            while (place < end && isIn(byteAt(place), '0', '9')) {
                 // More digits than any number has must not wrap around.
                 value = Math.min(value * 10 + byteAt(place) - '0', MOST_FUEL + 1);
                 place++;
@@ -827,7 +827,7 @@ public final class SeaMeeting {
             }
         }
 
-        /** NONE behind the text's end, so that every run of bytes ends there. */
+        /** NONE behind the text's end: no byte can stand there. */
         private int byteAt(int i) {
             return i < end && i < bytes.length ? bytes[i] : NONE;
         }

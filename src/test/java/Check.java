@@ -5,11 +5,19 @@ final class Check {
     }
 
     private final String name;
+    private String sentence = "";
+    private int sentences = 0;
     private int asked = 0;
     private int wrong = 0;
 
     Check(String name) {
         this.name = name;
+    }
+
+    /** The words of the document that the next answers are asked for. */
+    void about(String words) {
+        sentence = words;
+        sentences++;
     }
 
     void due(String call, long want, Call made) {
@@ -18,6 +26,18 @@ final class Check {
         if (!got.equals(Long.toString(want))) {
             tell(call, got, Long.toString(want));
         }
+    }
+
+    /** Answers of one call for 0, 1, 2 .. */
+    void row(String call, Row made, long... want) {
+        for (int i = 0; i < want.length; i++) {
+            int n = i;
+            due(call + " of " + i, want[i], () -> made.answer(n));
+        }
+    }
+
+    interface Row {
+        long answer(int n);
     }
 
     void refused(String call, Class<? extends RuntimeException> kind, Call made) {
@@ -45,7 +65,8 @@ final class Check {
     }
 
     void end() {
-        System.out.println(name + ": " + asked + " answers, " + wrong + " of them not as due");
+        String about = sentences == 0 ? "" : " about " + sentences + " sentences";
+        System.out.println(name + ": " + asked + " answers" + about + ", " + wrong + " of them not as due");
         if (wrong != 0) {
             System.exit(1);
         }
@@ -54,7 +75,8 @@ final class Check {
     private void tell(String call, String got, String want) {
         wrong++;
         if (wrong <= 50) {
-            System.out.println(name + ": " + call + " answered " + got + ", due is " + want);
+            String about = sentence.isEmpty() ? "" : "\"" + sentence + "\": ";
+            System.out.println(name + ": " + about + call + " answered " + got + ", due is " + want);
         }
     }
 }
