@@ -15,6 +15,7 @@ public final class PromiseEdgeTest {
         test.windNowOrLater();
         test.undoNone();
         test.told();
+        test.toldLand();
         test.toldTape();
         test.cell();
         test.blowsToTheLast();
@@ -154,6 +155,20 @@ public final class PromiseEdgeTest {
         sea.wind(0, 1);
         sea.hour(0, 0, 0);
         check.row("told", sea::told, 20, 12, 1, 2, 998, 9, 3, 19, 10, 18, 11, 40, 3);
+    }
+
+    private void toldLand() {
+        check.about("6 CELLS that are LAND (told)");
+        String ships = "drifter 2 1 0;helper 2 1 0;port 2 1;";
+        check.due("none", 0, () -> Sea.of("sea 4 3;" + ships).told(6));
+        check.due("the first cell", 1, () -> Sea.of("sea 4 3;land 0 0;" + ships).told(6));
+        check.due("the last cell", 1, () -> Sea.of("sea 4 3;land 3 2;" + ships).told(6));
+        check.due("one cell told twice", 1, () -> Sea.of("sea 4 3;land 3 2;land 3 2;" + ships).told(6));
+        StringBuilder text = new StringBuilder("sea 4 3;" + ships);
+        for (int at = 0; at < 12; at++) {
+            text.append(at == 6 ? "" : "land " + at % 4 + " " + at / 4 + ";");
+        }
+        check.due("all but one", 11, () -> Sea.of(text.toString()).told(6));
     }
 
     private void toldTape() {
@@ -306,6 +321,10 @@ public final class PromiseEdgeTest {
         check.due("all in 1 hour", 0, () -> all.first());
         SeaMeeting now = Sea.of("sea 6 4;drifter 2 1 0;helper 3 1 9;helper 3 1 99;helper 2 1 0;port 0 0;");
         check.due("the last one now", 2, () -> now.first());
+        SeaMeeting later = Sea.of("sea 6 4;drifter 2 1 0;helper 3 1 9;helper 5 1 99;helper 0 1 99;port 0 0;");
+        check.due("0 in 1 hour, 1 in 3, 2 in 2", 0, () -> later.first());
+        later.fuel(0, 0);
+        check.due("1 in 3 hours, 2 in 2", 2, () -> later.first());
     }
 
     private void firstNone() {
@@ -339,6 +358,9 @@ public final class PromiseEdgeTest {
         check.about("can MEET in n HOURS or less (least, .. 60)");
         check.row("least by 59 and 60", i -> sixty(0).least(0, 59 + i), 3, 0);
         check.row("least by 59 and 60 where 61 are due", i -> sixty(1).least(0, 59 + i), 3, 3);
+        SeaMeeting one = Sea.of("sea 4 3;wind w;drifter 0 0 1;helper 1 0 0;port 0 0;");
+        one.wind(4, 3);
+        check.row("one with the wind, later none at all", n -> one.least(0, n), -1, 1, 1, 1, 1, 0, 0);
         SeaMeeting passes = Sea.of("sea 6 3;current 0 0 5 0 e;drifter 0 0 0;helper 1 1 0;port 0 0;land 2 1;land 3 1;"
                 + "land 4 1;land 5 1;land 0 1;");
         passes.wind(0, 5);

@@ -47,24 +47,13 @@ public final class PromiseTest {
         test.check.end();
     }
 
-    private void row(String call, Asked asked, long... want) {
-        for (int i = 0; i < want.length; i++) {
-            int n = i;
-            check.due(call + " of " + i, want[i], () -> asked.answer(n));
-        }
-    }
-
-    interface Asked {
-        long answer(int n);
-    }
-
     private void newObject() {
         SeaMeeting sea = new SeaMeeting();
-        row("new told", sea::told, 3, 3, 0, 1, 999, 0, 0, 0, 0, 1, 1, 0, 0);
-        row("new helper 0", what -> sea.helper(0, what), 2, 2, 10, 0);
-        row("new cells' currents", at -> sea.cell(at % 3, at / 3, 1), 0, 0, 0, 0, 0, 0, 0, 0, 0);
-        row("new cells' land", at -> sea.cell(at % 3, at / 3, 0), 0, 0, 0, 0, 0, 0, 0, 0, 0);
-        row("new status", what -> sea.status(what), 0, 0, 0, -1);
+        check.row("new told", sea::told, 3, 3, 0, 1, 999, 0, 0, 0, 0, 1, 1, 0, 0);
+        check.row("new helper 0", what -> sea.helper(0, what), 2, 2, 10, 0);
+        check.row("new cells' currents", at -> sea.cell(at % 3, at / 3, 1), 0, 0, 0, 0, 0, 0, 0, 0, 0);
+        check.row("new cells' land", at -> sea.cell(at % 3, at / 3, 0), 0, 0, 0, 0, 0, 0, 0, 0, 0);
+        check.row("new status", what -> sea.status(what), 0, 0, 0, -1);
         check.due("new blows(560)", 0, () -> sea.blows(560));
         check.due("new fault()", -1, () -> sea.fault());
         check.due("new print()", 4102, () -> sea.print());
@@ -103,11 +92,11 @@ public final class PromiseTest {
         check.due("text(57)", 2, () -> sea.text(57));
         check.due("told(11)", 0, () -> sea.told(11));
         check.due("text(0)", -9, () -> sea.text(0));
-        row("told", sea::told, 5, 3, 0, 2, 999, 0, 0, 4, 0, 4, 2, 0, 1);
+        check.row("told", sea::told, 5, 3, 0, 2, 999, 0, 0, 4, 0, 4, 2, 0, 1);
         Sea.feed(sea, STILL + "boat");
         check.due("text(57) with bytes behind it", 2, () -> sea.text(57));
         check.due("told(11)", 0, () -> sea.told(11));
-        row("status", sea::status, 0, 3, 0);
+        check.row("status", sea::status, 0, 3, 0);
     }
 
     private void textTellsAllAnew() {
@@ -151,27 +140,27 @@ public final class PromiseTest {
         check.refused("hour(0, -1, 0)", ARGUMENT, () -> sea.hour(0, -1, 0));
         check.refused("hour(1, 1, 0)", ARGUMENT, () -> sea.hour(1, 1, 0));
         check.refused("hour(1, 0, 0) off the sea", STATE, () -> sea.hour(1, 0, 0));
-        row("status", sea::status, 0, 6, 1);
+        check.row("status", sea::status, 0, 6, 1);
         check.due("hour(5, 0, 0) with the wind", 0, () -> sea.hour(5, 0, 0));
-        row("helper", what -> sea.helper(0, what), 4, 1, 4, 0);
+        check.row("helper", what -> sea.helper(0, what), 4, 1, 4, 0);
         check.refused("hour(5, 0, 0) without fuel", STATE, () -> sea.hour(5, 0, 0));
         check.due("hour(1, 0, 0)", 0, () -> sea.hour(1, 0, 0));
-        row("helper", what -> sea.helper(0, what), 4, 2, 3, 0);
+        check.row("helper", what -> sea.helper(0, what), 4, 2, 3, 0);
         check.due("hour(7, 0, 0): the current carries back", 0, () -> sea.hour(7, 0, 0));
-        row("helper", what -> sea.helper(0, what), 4, 2, 0, 0);
+        check.row("helper", what -> sea.helper(0, what), 4, 2, 0, 0);
         check.due("hour(0, 0, 0)", 0, () -> sea.hour(0, 0, 0));
-        row("told", sea::told, 5, 3, 4, 1, 999, 2, 1, 4, 1, 3, 2, 0, 5);
+        check.row("told", sea::told, 5, 3, 4, 1, 999, 2, 1, 4, 1, 3, 2, 0, 5);
         check.due("hour(0, 0, 0)", 0, () -> sea.hour(0, 0, 0));
         check.due("hour(0, 0, 0): it meets", 1, () -> sea.hour(0, 0, 0));
         check.due("hour(0, 0, 0): and still", 1, () -> sea.hour(0, 0, 0));
-        row("helper", what -> sea.helper(0, what), 4, 2, 0, 1);
+        check.row("helper", what -> sea.helper(0, what), 4, 2, 0, 1);
         SeaMeeting island = Sea.of("sea 3 3;land 1 1;drifter 0 0 0;helper 0 1 9;port 2 2;current 0 0 0 0 ne;");
         check.refused("hour(3, 0, 0) to land", STATE, () -> island.hour(3, 0, 0));
         check.due("hour(0, 0, 0)", 0, () -> island.hour(0, 0, 0));
-        row("a drifter held by land", island::told, 3, 3, 1, 1, 999, 0, 1, 0, 0);
+        check.row("a drifter held by land", island::told, 3, 3, 1, 1, 999, 0, 1, 0, 0);
         check.due("hour(5, 0, 0): nothing is tugged along", 1, () -> island.hour(5, 0, 0));
         check.due("hour(3, 0, 0)", 0, () -> island.hour(3, 0, 0));
-        row("the drifter stays", island::told, 3, 3, 3, 1, 999, 0, 1, 0, 0);
+        check.row("the drifter stays", island::told, 3, 3, 3, 1, 999, 0, 1, 0, 0);
     }
 
     private void hourOfThree() {
@@ -179,13 +168,13 @@ public final class PromiseTest {
         check.refused("hour(9, 9, 9)", ARGUMENT, () -> sea.hour(9, 9, 9));
         check.refused("hour(0, 0, 9)", ARGUMENT, () -> sea.hour(0, 0, 9));
         check.refused("hour(2, 5, 7): the third has too little", STATE, () -> sea.hour(2, 5, 7));
-        row("helpers", i -> sea.helper(i, 2), 3, 9, 2);
+        check.row("helpers", i -> sea.helper(i, 2), 3, 9, 2);
         check.due("hour(2, 5, 0)", 3, () -> sea.hour(2, 5, 0));
-        row("helpers", i -> sea.helper(i, 2), 0, 6, 2);
-        row("helpers meet", i -> sea.helper(i, 3), 1, 1, 0);
+        check.row("helpers", i -> sea.helper(i, 2), 0, 6, 2);
+        check.row("helpers meet", i -> sea.helper(i, 3), 1, 1, 0);
         sea.fuel(2, 3);
         check.due("hour(0, 1, 7)", 5, () -> sea.hour(0, 1, 7));
-        row("told", sea::told, 4, 4, 2, 3, 999, 0, 0, 1, 1, 3, 1, 0, 4);
+        check.row("told", sea::told, 4, 4, 2, 3, 999, 0, 0, 1, 1, 3, 1, 0, 4);
     }
 
     private void lastHour() {
@@ -212,7 +201,7 @@ public final class PromiseTest {
         check.due("fuel(1, 0)", 7, () -> sea.fuel(1, 0));
         check.due("fuel(0, 3)", 3, () -> sea.fuel(0, 3));
         check.due("told(12)", 4, () -> sea.told(12));
-        row("helpers", i -> sea.helper(i, 2), 3, 0);
+        check.row("helpers", i -> sea.helper(i, 2), 3, 0);
         check.refused("fuel(0, 8)", ARGUMENT, () -> sea.fuel(0, 8));
         check.refused("fuel(0, -1)", ARGUMENT, () -> sea.fuel(0, -1));
         check.refused("fuel(2, 1)", ELEMENT, () -> sea.fuel(2, 1));
@@ -228,7 +217,7 @@ public final class PromiseTest {
         check.due("wind(1, 8)", 0, () -> sea.wind(1, 8));
         check.due("wind(560, 4)", 5, () -> sea.wind(560, 4));
         check.due("wind(0, 3)", 5, () -> sea.wind(0, 3));
-        row("blows", sea::blows, 3, 8, 5, 1, 5);
+        check.row("blows", sea::blows, 3, 8, 5, 1, 5);
         check.due("blows(560)", 4, () -> sea.blows(560));
         check.due("hour", 0, () -> sea.hour(0, 0, 0));
         check.refused("wind(0, 1) of an hour gone", ARGUMENT, () -> sea.wind(0, 1));
@@ -295,7 +284,7 @@ public final class PromiseTest {
 
     private void toldAndCell() {
         SeaMeeting sea = Sea.of(STREAM + "land 3 1;tank 50;");
-        row("told", sea::told, 5, 3, 0, 1, 50, 2, 2, 0, 0, 4, 0, 0, 1);
+        check.row("told", sea::told, 5, 3, 0, 1, 50, 2, 2, 0, 0, 4, 0, 0, 1);
         check.refused("told(13)", ARGUMENT, () -> sea.told(13));
         check.refused("told(-1)", ARGUMENT, () -> sea.told(-1));
         sea.feed(0, 0, 0, 0, 0);
@@ -314,7 +303,7 @@ public final class PromiseTest {
 
     private void blows() {
         SeaMeeting sea = Sea.of("sea 3 3;wind n e o;drifter 0 0 0;helper 1 1 1;port 0 0;");
-        row("blows", sea::blows, 1, 3, 0, 1, 3, 0, 1);
+        check.row("blows", sea::blows, 1, 3, 0, 1, 3, 0, 1);
         check.due("blows(560)", 0, () -> sea.blows(560));
         check.due("blows(559)", 3, () -> sea.blows(559));
         check.refused("blows(561)", ARGUMENT, () -> sea.blows(561));
@@ -323,8 +312,8 @@ public final class PromiseTest {
 
     private void helper() {
         SeaMeeting sea = Sea.of("sea 5 4;drifter 3 1 0;helper 4 2 6;helper 3 1 0;port 0 0;");
-        row("helper 0", what -> sea.helper(0, what), 4, 2, 6, 0);
-        row("helper 1", what -> sea.helper(1, what), 3, 1, 0, 1);
+        check.row("helper 0", what -> sea.helper(0, what), 4, 2, 6, 0);
+        check.row("helper 1", what -> sea.helper(1, what), 3, 1, 0, 1);
         check.refused("helper(2, 0)", ELEMENT, () -> sea.helper(2, 0));
         check.refused("helper(-1, 0)", ELEMENT, () -> sea.helper(-1, 0));
         check.refused("helper(2, 4)", ELEMENT, () -> sea.helper(2, 4));
@@ -334,15 +323,15 @@ public final class PromiseTest {
 
     private void drift() {
         SeaMeeting sea = Sea.of(STREAM);
-        row("the drifter's x", n -> sea.drift(n, 0), 0, 1, 2, 3, 4, 4, 4, 4);
-        row("the drifter's y", n -> sea.drift(n, 1), 0, 0, 0, 0, 1, 1, 2, 2);
-        row("the port's x", n -> sea.drift(n, 2), 4, 4, 3, 3, 3, 2, 2, 2, 1, 1, 1, 0, 0, 0, 0);
-        row("the port's y", n -> sea.drift(n, 3), 0, 1, 1, 1, 2, 2, 2, 2, 2, 2, 2, 2, 2, 2, 2);
+        check.row("the drifter's x", n -> sea.drift(n, 0), 0, 1, 2, 3, 4, 4, 4, 4);
+        check.row("the drifter's y", n -> sea.drift(n, 1), 0, 0, 0, 0, 1, 1, 2, 2);
+        check.row("the port's x", n -> sea.drift(n, 2), 4, 4, 3, 3, 3, 2, 2, 2, 1, 1, 1, 0, 0, 0, 0);
+        check.row("the port's y", n -> sea.drift(n, 3), 0, 1, 1, 1, 2, 2, 2, 2, 2, 2, 2, 2, 2, 2, 2);
         check.due("drift(60, 1)", 2, () -> sea.drift(60, 1));
         sea.hour(0, 0, 0);
-        row("from hour 1 on", n -> sea.drift(n, 0), 1, 2, 3, 4, 4);
-        row("from hour 1 on", n -> sea.drift(n, 1), 0, 0, 0, 1, 1, 2);
-        row("from hour 1 on", n -> sea.drift(n, 2), 4, 3, 3, 3, 2);
+        check.row("from hour 1 on", n -> sea.drift(n, 0), 1, 2, 3, 4, 4);
+        check.row("from hour 1 on", n -> sea.drift(n, 1), 0, 0, 0, 1, 1, 2);
+        check.row("from hour 1 on", n -> sea.drift(n, 2), 4, 3, 3, 3, 2);
         sea.wind(3, 5);
         check.due("drift(3, 1) with another wind", 0, () -> sea.drift(3, 1));
         check.refused("drift(61, 0)", ARGUMENT, () -> sea.drift(61, 0));
@@ -350,12 +339,12 @@ public final class PromiseTest {
         check.refused("drift(0, 4)", ARGUMENT, () -> sea.drift(0, 4));
         check.refused("drift(0, -1)", ARGUMENT, () -> sea.drift(0, -1));
         SeaMeeting each = Sea.of("sea 6 3;wind e;drifter 0 0 1;helper 0 0 0;port 0 1 e;land 2 1;");
-        row("leeway 1", n -> each.drift(n, 0), 0, 1, 2, 3, 4, 5, 5);
-        row("a port held by land", n -> each.drift(n, 2), 0, 1, 1, 1);
+        check.row("leeway 1", n -> each.drift(n, 0), 0, 1, 2, 3, 4, 5, 5);
+        check.row("a port held by land", n -> each.drift(n, 2), 0, 1, 1, 1);
         SeaMeeting third = Sea.of("sea 6 3;wind e;drifter 0 0 3;helper 0 0 0;port 0 1;");
-        row("leeway 3", n -> third.drift(n, 0), 0, 0, 0, 1, 1, 1, 2);
+        check.row("leeway 3", n -> third.drift(n, 0), 0, 0, 0, 1, 1, 1, 2);
         third.hour(0, 0, 0);
-        row("leeway 3 from hour 1 on", n -> third.drift(n, 0), 0, 0, 1, 1, 1, 2);
+        check.row("leeway 3 from hour 1 on", n -> third.drift(n, 0), 0, 0, 1, 1, 1, 2);
         SeaMeeting none = Sea.of("sea 6 3;wind e;drifter 0 0 0;helper 0 0 0;port 0 1;");
         check.due("no leeway", 0, () -> none.drift(60, 0));
         check.due("a port without a row", 0, () -> none.drift(60, 2));
@@ -363,38 +352,38 @@ public final class PromiseTest {
 
     private void cost() {
         SeaMeeting sea = Sea.of("sea 3 3;wind n o nw;drifter 0 0 0;helper 1 1 1;port 0 0;");
-        row("wind to the north", course -> sea.cost(course + 1, 0), 1, 2, 3, 4, 5, 4, 3, 2);
-        row("no wind", course -> sea.cost(course + 1, 1), 3, 3, 3, 3, 3, 3, 3, 3);
-        row("wind to the north-west", course -> sea.cost(course + 1, 2), 2, 3, 4, 5, 4, 3, 2, 1);
+        check.row("wind to the north", course -> sea.cost(course + 1, 0), 1, 2, 3, 4, 5, 4, 3, 2);
+        check.row("no wind", course -> sea.cost(course + 1, 1), 3, 3, 3, 3, 3, 3, 3, 3);
+        check.row("wind to the north-west", course -> sea.cost(course + 1, 2), 2, 3, 4, 5, 4, 3, 2, 1);
         check.due("cost(1, 59)", 2, () -> sea.cost(1, 59));
         check.refused("cost(1, 60)", ARGUMENT, () -> sea.cost(1, 60));
         check.refused("cost(1, -1)", ARGUMENT, () -> sea.cost(1, -1));
         check.refused("cost(0, 0)", ARGUMENT, () -> sea.cost(0, 0));
         check.refused("cost(9, 0)", ARGUMENT, () -> sea.cost(9, 0));
         sea.hour(0, 0, 0);
-        row("from hour 1 on", n -> sea.cost(1, n), 3, 2, 1, 3);
+        check.row("from hour 1 on", n -> sea.cost(1, n), 3, 2, 1, 3);
         sea.wind(2, 5);
         check.due("with a wind by hand", 5, () -> sea.cost(1, 1));
     }
 
     private void meetAndRoute() {
         SeaMeeting sea = Sea.of(STREAM);
-        row("meet", what -> sea.meet(0, what), 4, 4);
-        row("route", k -> sea.route(0, k), 0, 0, 5, 0, -1, -1);
+        check.row("meet", what -> sea.meet(0, what), 4, 4);
+        check.row("route", k -> sea.route(0, k), 0, 0, 5, 0, -1, -1);
         check.due("route(0, -1)", -1, () -> sea.route(0, -1));
         check.due("route(0, least of all)", -1, () -> sea.route(0, Integer.MIN_VALUE));
         check.due("route(0, greatest of all)", -1, () -> sea.route(0, Integer.MAX_VALUE));
         sea.fuel(0, 0);
-        row("meet without fuel", what -> sea.meet(0, what), 6, 0);
-        row("route without fuel", k -> sea.route(0, k), 0, 0, 0, 0, 0, 0, -1);
+        check.row("meet without fuel", what -> sea.meet(0, what), 6, 0);
+        check.row("route without fuel", k -> sea.route(0, k), 0, 0, 0, 0, 0, 0, -1);
         SeaMeeting still = Sea.of(STILL);
-        row("meet never", what -> still.meet(0, what), -1, -1);
-        row("route never", k -> still.route(0, k), -1);
-        row("meet", what -> still.meet(1, what), 3, 0);
-        row("route: the least first", k -> still.route(1, k), 2, 3, 4, -1);
+        check.row("meet never", what -> still.meet(0, what), -1, -1);
+        check.row("route never", k -> still.route(0, k), -1);
+        check.row("meet", what -> still.meet(1, what), 3, 0);
+        check.row("route: the least first", k -> still.route(1, k), 2, 3, 4, -1);
         SeaMeeting there = Sea.of("sea 3 3;drifter 1 1 0;helper 1 1 4;port 0 0;");
-        row("meet now", what -> there.meet(0, what), 0, 4);
-        row("route now", k -> there.route(0, k), -1);
+        check.row("meet now", what -> there.meet(0, what), 0, 4);
+        check.row("route now", k -> there.route(0, k), -1);
         check.refused("meet(0, 2)", ARGUMENT, () -> sea.meet(0, 2));
         check.refused("meet(0, -1)", ARGUMENT, () -> sea.meet(0, -1));
         check.refused("meet(1, 0)", ELEMENT, () -> sea.meet(1, 0));
@@ -402,10 +391,10 @@ public final class PromiseTest {
         check.refused("route(1, 0)", ELEMENT, () -> sea.route(1, 0));
         check.refused("route(-1, 0)", ELEMENT, () -> sea.route(-1, 0));
         SeaMeeting late = Sea.of("sea 3 3;wind" + " o".repeat(19) + " e;drifter 0 0 2;helper 2 0 2;port 0 0;");
-        row("meet in 40 hours", what -> late.meet(0, what), 40, 2);
-        row("meet in 60 hours", what -> sixty(0).meet(0, what), 60, 0);
-        row("route of 60 hours", k -> sixty(0).route(0, 58 + k), 0, 0, -1);
-        row("in 61 hours is never", what -> sixty(1).meet(0, what), -1, -1);
+        check.row("meet in 40 hours", what -> late.meet(0, what), 40, 2);
+        check.row("meet in 60 hours", what -> sixty(0).meet(0, what), 60, 0);
+        check.row("route of 60 hours", k -> sixty(0).route(0, 58 + k), 0, 0, -1);
+        check.row("in 61 hours is never", what -> sixty(1).meet(0, what), -1, -1);
     }
 
     /** A drifter that the wind brings to the helper in 60 hours, or later. */
@@ -417,16 +406,16 @@ public final class PromiseTest {
 
     private void routeOfSeveral() {
         SeaMeeting sea = Sea.of("sea 5 5;drifter 4 2 0;helper 2 2 99;port 0 0;");
-        row("by the north first", k -> sea.route(0, k), 2, 4, -1);
+        check.row("by the north first", k -> sea.route(0, k), 2, 4, -1);
         sea.wind(0, 4);
-        row("by the cheapest", k -> sea.route(0, k), 4, 2, -1);
-        row("most fuel left", what -> sea.meet(0, what), 2, 95);
+        check.row("by the cheapest", k -> sea.route(0, k), 4, 2, -1);
+        check.row("most fuel left", what -> sea.meet(0, what), 2, 95);
         sea.wind(1, 3);
-        row("of the cheapest the first row", k -> sea.route(0, k), 3, 3, -1);
-        row("most fuel left", what -> sea.meet(0, what), 2, 96);
+        check.row("of the cheapest the first row", k -> sea.route(0, k), 3, 3, -1);
+        check.row("most fuel left", what -> sea.meet(0, what), 2, 96);
         sea.hour(4, 0, 0);
-        row("the rest of it", k -> sea.route(0, k), 2, -1);
-        row("with what is left", what -> sea.meet(0, what), 1, 96);
+        check.row("the rest of it", k -> sea.route(0, k), 2, -1);
+        check.row("with what is left", what -> sea.meet(0, what), 1, 96);
     }
 
     private void first() {
@@ -447,15 +436,15 @@ public final class PromiseTest {
 
     private void least() {
         SeaMeeting sea = Sea.of(STREAM);
-        row("least", n -> sea.least(0, n), -1, -1, -1, -1, 1, 1, 0, 0);
+        check.row("least", n -> sea.least(0, n), -1, -1, -1, -1, 1, 1, 0, 0);
         check.due("least(0, 60)", 0, () -> sea.least(0, 60));
         sea.fuel(0, 0);
         check.due("least(0, 4) as if it had so much", 1, () -> sea.least(0, 4));
         SeaMeeting still = Sea.of(STILL + "tank 9;");
-        row("least of 0", n -> still.least(0, n), -1, -1, -1, -1, 12, 12);
-        row("least of 1", n -> still.least(1, n), -1, -1, -1, 9, 9);
+        check.row("least of 0", n -> still.least(0, n), -1, -1, -1, -1, 12, 12);
+        check.row("least of 1", n -> still.least(1, n), -1, -1, -1, 9, 9);
         SeaMeeting there = Sea.of("sea 3 3;drifter 1 1 0;helper 1 1 0;port 0 0;");
-        row("least now", n -> there.least(0, n), 0, 0);
+        check.row("least now", n -> there.least(0, n), 0, 0);
         SeaMeeting apart = Sea.of("sea 3 3;drifter 0 0 0;helper 2 2 99;port 0 0;land 0 1;land 1 1;land 1 0;");
         check.due("least by none", -1, () -> apart.least(0, 60));
         check.due("least of a new one", 6, () -> new SeaMeeting().least(0, 2));
@@ -469,14 +458,14 @@ public final class PromiseTest {
 
     private void reachAndMost() {
         SeaMeeting sea = Sea.of(STREAM);
-        row("reach", n -> sea.reach(0, n), 1, 2);
-        row("most in 1", y -> sea.most(0, 1, 4, y), -1, 4, 5);
-        row("most in 0", y -> sea.most(0, 0, 4, y), -1, -1, 5);
+        check.row("reach", n -> sea.reach(0, n), 1, 2);
+        check.row("most in 1", y -> sea.most(0, 1, 4, y), -1, 4, 5);
+        check.row("most in 0", y -> sea.most(0, 0, 4, y), -1, -1, 5);
         check.due("most on land", -1, () -> sea.most(0, 60, 2, 1));
         SeaMeeting still = Sea.of(STILL);
-        row("reach of 0", n -> still.reach(0, n), 1, 4, 4, 4);
-        row("reach of 1", n -> still.reach(1, n), 1, 6, 12, 15);
-        row("most of 1 in 2", x -> still.most(1, 2, x, 0), 6, 9, 6, 3, -1);
+        check.row("reach of 0", n -> still.reach(0, n), 1, 4, 4, 4);
+        check.row("reach of 1", n -> still.reach(1, n), 1, 6, 12, 15);
+        check.row("most of 1 in 2", x -> still.most(1, 2, x, 0), 6, 9, 6, 3, -1);
         check.due("most(1, 60, 4, 2)", 0, () -> still.most(1, 60, 4, 2));
         check.due("reach(1, 60)", 15, () -> still.reach(1, 60));
         check.refused("reach(0, 61)", ARGUMENT, () -> still.reach(0, 61));
@@ -527,43 +516,43 @@ public final class PromiseTest {
 
     private void fullSea() {
         SeaMeeting sea = Sea.of("sea 20 12;drifter 19 11 0;helper 0 0 57;helper 19 11 57;port 0 11;");
-        row("meet across", what -> sea.meet(0, what), 19, 0);
-        row("reach", n -> sea.reach(0, n), 1, 4, 9, 16);
+        check.row("meet across", what -> sea.meet(0, what), 19, 0);
+        check.row("reach", n -> sea.reach(0, n), 1, 4, 9, 16);
         check.due("reach(0, 11)", 144, () -> sea.reach(0, 11));
         check.due("reach(0, 18)", 19 * 12, () -> sea.reach(0, 18));
         check.due("reach(0, 60)", 240, () -> sea.reach(0, 60));
         check.due("most(0, 60, 19, 11)", 0, () -> sea.most(0, 60, 19, 11));
-        row("reach from the corner", n -> sea.reach(1, n), 1, 4, 9, 16);
+        check.row("reach from the corner", n -> sea.reach(1, n), 1, 4, 9, 16);
         check.due("least(0, 60)", 57, () -> sea.least(0, 60));
         check.due("relay(1, 0)", 19, () -> sea.relay(1, 0));
         sea.fuel(1, 999);
-        row("home across", what -> sea.home(1, what), 19, 999 - 6 * 19);
-        row("route across", k -> sea.route(0, k), 2, 2, 2, 2, 2, 2, 2, 2, 2, 2, 2, 3, 3, 3, 3, 3, 3, 3, 3, -1);
+        check.row("home across", what -> sea.home(1, what), 19, 999 - 6 * 19);
+        check.row("route across", k -> sea.route(0, k), 2, 2, 2, 2, 2, 2, 2, 2, 2, 2, 2, 3, 3, 3, 3, 3, 3, 3, 3, -1);
     }
 
     private void home() {
         SeaMeeting sea = new SeaMeeting();
-        row("home without fuel for it", what -> sea.home(0, what), -1, -1);
+        check.row("home without fuel for it", what -> sea.home(0, what), -1, -1);
         sea.fuel(0, 12);
-        row("home", what -> sea.home(0, what), 3, 0);
+        check.row("home", what -> sea.home(0, what), 3, 0);
         sea.wind(2, 3);
-        row("home with the wind nearly behind", what -> sea.home(0, what), 3, 2);
+        check.row("home with the wind nearly behind", what -> sea.home(0, what), 3, 2);
         sea.wind(2, 6);
-        row("home later, with the wind ahead now", what -> sea.home(0, what), 4, 0);
+        check.row("home later, with the wind ahead now", what -> sea.home(0, what), 4, 0);
         SeaMeeting stream = Sea.of(STREAM);
-        row("home is out of reach", what -> stream.home(0, what), -1, -1);
+        check.row("home is out of reach", what -> stream.home(0, what), -1, -1);
         SeaMeeting still = Sea.of(STILL);
-        row("home without a meeting", what -> still.home(0, what), -1, -1);
+        check.row("home without a meeting", what -> still.home(0, what), -1, -1);
         SeaMeeting comes = Sea.of("sea 5 3;drifter 4 0 0;helper 4 1 3;port 0 0 e;");
-        row("a port that comes", what -> comes.home(0, what), 4, 0);
+        check.row("a port that comes", what -> comes.home(0, what), 4, 0);
         SeaMeeting there = Sea.of("sea 5 3;drifter 4 0 0;helper 4 1 7;port 4 0;");
-        row("a port where they meet", what -> there.home(0, what), 1, 4);
+        check.row("a port where they meet", what -> there.home(0, what), 1, 4);
         SeaMeeting tide = Sea.of("sea 5 3;current 0 0 4 0 w;drifter 4 0 0;helper 4 0 5;port 0 0;");
-        row("towed by the current", what -> tide.home(0, what), 4, 5);
+        check.row("towed by the current", what -> tide.home(0, what), 4, 5);
         SeaMeeting slow = Sea.of("sea 6 3;drifter 5 0 0;helper 5 0 5;port 0 0" + " o".repeat(11) + " e;");
-        row("a port that comes in the last hour", what -> slow.home(0, what), 60, 5);
-        row("home in the last hour", what -> waiting(59).home(0, what), 60, 0);
-        row("home behind the last hour", what -> waiting(60).home(0, what), -1, -1);
+        check.row("a port that comes in the last hour", what -> slow.home(0, what), 60, 5);
+        check.row("home in the last hour", what -> waiting(59).home(0, what), 60, 0);
+        check.row("home behind the last hour", what -> waiting(60).home(0, what), -1, -1);
         check.refused("home(0, 2)", ARGUMENT, () -> sea.home(0, 2));
         check.refused("home(0, -1)", ARGUMENT, () -> sea.home(0, -1));
         check.refused("home(1, 0)", ELEMENT, () -> sea.home(1, 0));

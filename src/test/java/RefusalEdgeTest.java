@@ -45,7 +45,7 @@ public final class RefusalEdgeTest {
         test.relay();
         test.home();
         test.statusCounts();
-        test.refusedAreNotCountedTwice();
+        test.answersAreNotRefusals();
         test.statusIsNotTakenBack();
         test.check.end();
     }
@@ -341,7 +341,7 @@ public final class RefusalEdgeTest {
         check.same("status() behind status()", "3 6 12", Sea.statusOf(sea));
     }
 
-    private void refusedAreNotCountedTwice() {
+    private void answersAreNotRefusals() {
         check.about("How many calls were refused: what answers NONE or a FAULT is not");
         SeaMeeting sea = new SeaMeeting();
         sea.undo();
