@@ -119,7 +119,7 @@ public final class SeaMeeting {
         }
         keptCount--;
         keptNext = (keptNext + MOST_KEPT - 1) % MOST_KEPT;
-        world.become(kept[keptNext]);
+        world.become(keptAt(keptNext));
         outlook.forget();
         return keptCount;
     }
@@ -294,10 +294,14 @@ public final class SeaMeeting {
 
     /** Every act calls this ahead of its change, so what was looked ahead at no longer counts. */
     private void keepWorld() {
-        kept[keptNext].become(world);
+        keptAt(keptNext).become(world);
         keptNext = (keptNext + 1) % MOST_KEPT;
         keptCount = Math.min(keptCount + 1, MOST_KEPT);
         outlook.forget();
+    }
+
+    private World keptAt(int i) {
+        return kept[Math.max(0, Math.min(i, kept.length - 1))];
     }
 
     private static boolean isIn(int n, int least, int most) {
@@ -781,7 +785,8 @@ public final class SeaMeeting {
                 return false;
             }
             for (int i = 0; i < word.length(); i++) {
-                if (start + i >= bytes.length || bytes[start + i] != word.charAt(i)) {
+                int at = start + i;
+                if (at < 0 || at >= bytes.length || bytes[at] != word.charAt(i)) {
                     return false;
                 }
             }
@@ -822,14 +827,14 @@ public final class SeaMeeting {
         }
 
         private void skipBlanks() {
-            while (place < end && place < bytes.length && bytes[place] == ' ') {
+            while (place >= 0 && place < end && place < bytes.length && bytes[place] == ' ') {
                 place++;
             }
         }
 
         /** NONE behind the text's end: no byte can stand there. */
         private int byteAt(int i) {
-            return i < end && i < bytes.length ? bytes[i] : NONE;
+            return i >= 0 && i < end && i < bytes.length ? bytes[i] : NONE;
         }
     }
 
@@ -954,7 +959,7 @@ public final class SeaMeeting {
         /** The most fuel in each cell n hours from now; NONE where the helper can't be. */
         private int[] mostsOf(int helper, int n) {
             Sailing sailing = sailingOf(helper);
-            for (int i = sailing.known; i <= n && i <= AHEAD; i++) {
+            for (int i = Math.max(0, sailing.known); i <= n && i <= AHEAD; i++) {
                 if (i == 0) {
                     begin(sailing.mosts[0], read(world.places, helper), read(world.stores, helper));
                 } else {
@@ -1107,7 +1112,7 @@ public final class SeaMeeting {
 
         int homeOf(int helper, int what) {
             int met = earliestOf(helper);
-            if (met == NONE) {
+            if (met < 0) {
                 return NONE;
             }
             begin(turning[met % 2], drifterIn(met), mostMeeting(helper, met));
