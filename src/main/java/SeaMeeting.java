@@ -904,7 +904,7 @@ public final class SeaMeeting {
         }
 
         private void lookAtCourses() {
-            for (int at = 0; at < cells; at++) {
+            for (int at = 0; at < cells && at < CELLS; at++) {
                 for (int course = 0; course < COURSES; course++) {
                     behinds[at * COURSES + course] = world.helperBehind(at, course);
                 }
@@ -1026,7 +1026,7 @@ public final class SeaMeeting {
             }
             begin(needs[hours], drifters[hours], 0);
             for (int n = hours - 1; n >= 0; n--) {
-                for (int at = 0; at < cells; at++) {
+                for (int at = 0; at < cells && at < CELLS; at++) {
                     needs[n][at] = needFrom(at, n);
                 }
             }
